@@ -1,5 +1,3 @@
-import java.util.Arrays;
-
 /** A reckoner of hours at the wheel: drivers' cards held against a law that is told as a text. */
 public final class WheelHours {
     public static final int NONE = -1;
@@ -800,7 +798,10 @@ public final class WheelHours {
 
         private void findLeast(int mark) {
             boolean atEnd = minute[mark] >= reading.total;
-            Arrays.fill(least, placeOf(mark, 0, 0), placeOf(mark + 1, 0, 0), atEnd ? 0L : OUT_OF_REACH);
+            int behind = placeOf(mark + 1, 0, 0);
+            for (int place = placeOf(mark, 0, 0); place < behind; place++) {
+                least[place] = atEnd ? 0L : OUT_OF_REACH;
+            }
             if (atEnd) {
                 return;
             }
@@ -823,11 +824,11 @@ public final class WheelHours {
         private void offer(int mark, int end, int extended) {
             long price = priceOf(mark, end, extended);
             for (int taken = 0; taken <= mostTaken; taken++) {
-                int takenLeft = takenLeft(mark, end, taken);
+                int restsBehind = takenLeft(mark, end, taken);
                 for (int room = 0; room <= mostExtended; room++) {
                     int place = placeOf(mark, taken, room);
-                    int extendedLeft = extendedLeft(mark, end, room - extended);
-                    least[place] = Math.min(least[place], price + leastFrom(end, takenLeft, extendedLeft));
+                    int daysBehind = extendedLeft(mark, end, room - extended);
+                    least[place] = Math.min(least[place], price + leastFrom(end, restsBehind, daysBehind));
                 }
             }
         }
@@ -889,10 +890,10 @@ public final class WheelHours {
             int last = lastEnd(mark);
             long price = leastFrom(mark, taken, extended);
             for (int end = mark + 1; end <= last; end++) {
-                int takenLeft = takenLeft(mark, end, taken);
+                int restsBehind = takenLeft(mark, end, taken);
                 for (int longer = 1; longer >= 0; longer--) {
-                    int extendedLeft = extendedLeft(mark, end, extended - longer);
-                    if (priceOf(mark, end, longer) + leastFrom(end, takenLeft, extendedLeft) == price) {
+                    int daysBehind = extendedLeft(mark, end, extended - longer);
+                    if (priceOf(mark, end, longer) + leastFrom(end, restsBehind, daysBehind) == price) {
                         return 2 * end + longer;
                     }
                 }
@@ -958,11 +959,7 @@ public final class WheelHours {
         int withoutTrip = 0;
 
         void compare(Card[] cards, Trips trips, int vehicle) {
-            Arrays.fill(actAt, 0);
-            tripAt = 0;
-            withoutCard = 0;
-            withMoreCards = 0;
-            withoutTrip = 0;
+            startAgain();
             int minute = 0;
             for (int step = 0; step < STEPS && minute < ROW_MINUTES; step++) {
                 next = ROW_MINUTES;
@@ -974,6 +971,16 @@ public final class WheelHours {
                 addMinutes(next - minute, drivers, onTrip);
                 minute = next;
             }
+        }
+
+        private void startAgain() {
+            for (int card = 0; card < CARDS; card++) {
+                actAt[card] = 0;
+            }
+            tripAt = 0;
+            withoutCard = 0;
+            withMoreCards = 0;
+            withoutTrip = 0;
         }
 
         private boolean isDriven(Card row, int card, int minute, int vehicle) {
