@@ -20,7 +20,9 @@ public final class OracleTest {
         for (int seed = 0; seed < 2500 && wrong < 10; seed++) new OracleTest(seed).mixedRun();
         for (int seed = 0; seed < 1500 && wrong < 10; seed++) new OracleTest(seed).fortnight();
         for (int seed = 0; seed < 1500 && wrong < 10; seed++) new OracleTest(seed).shortSpells();
+        for (int seed = 0; seed < 600 && wrong < 10; seed++) new OracleTest(seed).likeOnes();
         for (int seed = 0; seed < 400 && wrong < 10; seed++) new OracleTest(seed).vehicles();
+        new OracleTest(0).crowdedVehicles();
         for (int seed = 0; seed < 4000 && wrong < 10; seed++) new OracleTest(seed).texts();
         System.out.println(wrong == 0 ? "all " + calls + " answers are as due" : wrong + " answers are not as due");
         if (wrong != 0) System.exit(1);
@@ -181,6 +183,19 @@ public final class OracleTest {
         if (random.nextInt(3) == 0) judge(1, true);
     }
 
+    /** Few lengths and much room, so that many choices weigh the same and the later rules of THE BEST decide. */
+    private void likeOnes() {
+        tell("c9999;q10;r1000;y" + of(2, 3, 99) + ";x" + of(1, 2, 99) + ";d" + of(100, 200) + ";e" + of(200, 250, 300));
+        int many = to(4, 9);
+        int far = random.nextInt(3) == 0 ? to(0, many) : -1;
+        for (int i = 0; i < many; i++) {
+            act(2, 0, of(50, 100, 100, 150, 200), 0);
+            act(2, 2, i == far ? of(9000, 9500) : 10, 0);
+        }
+        act(2, 0, of(50, 100, 200), 1);
+        judge(2, false);
+    }
+
     /** The oracle tries every set of days: leave out what would take it too long. */
     private boolean tooDear(int card) {
         int rests = 0;
@@ -210,6 +225,20 @@ public final class OracleTest {
                 act(to(0, 3), of(0, 0, 1, 2, 4), of(1, 3, 40, 100, 500), to(0, 1));
             }
         }
+        holdAgainst();
+    }
+
+    /** As many borders as there can be, no two at one MINUTE, the last one at the end of all. */
+    private void crowdedVehicles() {
+        for (int i = 0; i < 60; i++) {
+            for (int card = 0; card < 4; card++) act(card, i % 2, i == 0 ? card + 1 : 40, card / 3);
+        }
+        for (int i = 0; i < 19; i++) trip(0, 40 * i + 10, 40 * i + 20);
+        trip(0, 20000, 20160);
+        holdAgainst();
+    }
+
+    private void holdAgainst() {
         for (int vehicle = -1; vehicle <= 2; vehicle++) {
             for (int what = -1; what <= 3; what++) {
                 due("against(" + vehicle + ", " + what + ")", program.against(vehicle, what), oracle.against(vehicle, what));

@@ -429,6 +429,10 @@ public final class PromisesTest {
         // of r and q alike none may be taken
         x = row("q660", WORK, 800, REST, 659, WORK, 700);
         due("weight", x.weight(0, false), 719);
+        // the later one if the earlier one needs a DAY to be EXTENDED
+        x = row("", DRIVE, 60, REST, 540, DRIVE, 300, REST, 540, DRIVE, 300);
+        due("weight", x.weight(0, false), 0);
+        dueDays("fewest extended go ahead of the earlier run", x, 0, 1440, 360, 0, 2, 1440, 1740, 300, 0, 0);
         // fewer taken go ahead of fewer extended
         x = row("", DRIVE, 300, REST, 540, DRIVE, 300, WORK, 10);
         dueDays("extended, none taken", x, 0, 1150, 600, 1, 0);
@@ -582,14 +586,6 @@ public final class PromisesTest {
             due("far", x.against(far, 0), -1);
             due("far", x.against(0, far), -1);
         }
-        // four cards, all ACTS and all TRIPS that there may be, each with borders of its own
-        x = new WheelHours();
-        for (int i = 0; i < 60; i++) {
-            for (int card = 0; card < 4; card++) x.act(card, i % 2 == 0 ? DRIVE : REST, 5 + card, 0);
-        }
-        for (int i = 0; i < 20; i++) x.trip(0, 11 * i, 11 * i + 1);
-        due("trips", x.trip(0, 20000, 20160), false);
-        due("without a trip", x.against(0, 2) > 200, true);
         x = new WheelHours();
         for (int i = 0; i < 19; i++) x.trip(1, 2 * i, 2 * i + 1);
         x.trip(1, 20000, 20160);

@@ -3,7 +3,7 @@ import java.lang.management.ManagementFactory;
 
 /** What the dearest runs of calls make stays far below the room that one run has. */
 public final class RoomTest {
-    private static final long BYTES = 8L * 1024 * 1024;
+    private static final long BYTES = 12L * 1024 * 1024;
 
     private static int wrong = 0;
     private static long sum = 0;
