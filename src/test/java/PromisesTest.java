@@ -1,19 +1,5 @@
-import java.nio.ByteBuffer;
-import java.nio.charset.StandardCharsets;
-import java.util.Arrays;
-
 /** Each promise of the document by answers that were reckoned by hand. */
-public final class PromisesTest {
-    private static final int DRIVE = 0;
-    private static final int WORK = 1;
-    private static final int REST = 2;
-    private static final int FERRY = 3;
-    private static final int UNKNOWN = 4;
-    private static final int[] FAR = {Integer.MIN_VALUE, -100, -2, 1000000, Integer.MAX_VALUE};
-
-    private static int wrong = 0;
-    private static int asked = 0;
-
+public final class PromisesTest extends Checks {
     public static void main(String[] args) {
         newObject();
         feed();
@@ -41,67 +27,7 @@ public final class PromisesTest {
         look();
         count();
         refusedChangesNothing();
-        System.out.println(wrong == 0 ? "all " + asked + " answers are as due" : wrong + " answers are not as due");
-        if (wrong != 0) System.exit(1);
-    }
-
-    private static void due(String what, long got, long want) {
-        asked++;
-        if (got != want) {
-            wrong++;
-            System.out.println(what + ": answered " + got + ", due is " + want);
-        }
-    }
-
-    private static void due(String what, boolean got, boolean want) {
-        due(what, got ? 1 : 0, want ? 1 : 0);
-    }
-
-    private static int feed(WheelHours x, String text) {
-        byte[] bytes = Arrays.copyOf(text.getBytes(StandardCharsets.ISO_8859_1), (text.length() + 19) / 20 * 20);
-        ByteBuffer ints = ByteBuffer.wrap(bytes);
-        int size = x.count(-1, 0);
-        while (ints.remaining() >= 20) {
-            size = x.feed(ints.getInt(), ints.getInt(), ints.getInt(), ints.getInt(), ints.getInt());
-        }
-        return size;
-    }
-
-    private static int tell(WheelHours x, String text) {
-        feed(x, text);
-        return x.law(text.length());
-    }
-
-    /** An object with this law and, on card 0, these acts: pairs of kind and minutes. */
-    private static WheelHours row(String law, int... acts) {
-        WheelHours x = new WheelHours();
-        if (!law.isEmpty()) due("law " + law, tell(x, law), 0);
-        addTo(x, 0, acts);
-        return x;
-    }
-
-    private static void addTo(WheelHours x, int card, int... acts) {
-        for (int i = 0; i < acts.length; i += 2) {
-            int number = x.count(card, 0);
-            due("act " + i / 2, x.act(card, acts[i], acts[i + 1], 0), number);
-        }
-    }
-
-    /** All breaches of card 0: minute, rule and how many of each, in a row. */
-    private static void dueBreaches(String name, WheelHours x, boolean drive, int... want) {
-        due(name + " breaches", x.breaches(0, drive), want.length / 3);
-        for (int i = 0; i < want.length; i++) {
-            due(name + " breach " + i / 3 + " what " + i % 3, x.breach(0, drive, i / 3, i % 3), want[i]);
-        }
-        due(name + " breach behind the last", x.breach(0, drive, want.length / 3, 0), -1);
-    }
-
-    /** All days of card 0: beginning, end, drive, extended and ended by of each, in a row. */
-    private static void dueDays(String name, WheelHours x, int... want) {
-        for (int i = 0; i < want.length; i++) {
-            due(name + " day " + i / 5 + " what " + i % 5, x.day(0, false, i / 5, i % 5), want[i]);
-        }
-        due(name + " day behind the last", x.day(0, false, want.length / 5, 0), -1);
+        end();
     }
 
     private static void newObject() {
