@@ -314,9 +314,10 @@ final class Oracle {
             int driven = days.get(i)[2];
             if (Math.max(0, driven - num('e')) < Math.max(0, driven - num('d'))) worth.add(i);
         }
-        if (worth.size() > 14) throw new IllegalStateException("too many days to try");
-        for (int longs = 0; longs < 1 << worth.size(); longs++) {
-            Choice choice = choice(days, worth, longs);
+        boolean few = worth.size() + takeable.size() <= 13;
+        int sets = few ? 1 << worth.size() : 1;
+        for (int set = 0; set < sets; set++) {
+            Choice choice = choice(days, worth, few ? set : greatestGains(days, worth));
             if (choice == null) continue;
             choice.takes = takes.toString();
             choice.taken = Integer.bitCount(mask);
@@ -327,6 +328,28 @@ final class Oracle {
             }
         }
         return best;
+    }
+
+    /** Where there are too many sets to try: the DAYS of each WEEK that gain most, of like ones the earlier. */
+    private int greatestGains(List<int[]> days, List<Integer> worth) {
+        int longs = 0;
+        for (int week = 0; week < 2; week++) {
+            for (int n = 0; n < num('x'); n++) {
+                int chosen = -1;
+                int most = 0;
+                for (int i = 0; i < worth.size(); i++) {
+                    int[] day = days.get(worth.get(i));
+                    int gain = Math.max(0, day[2] - num('d')) - Math.max(0, day[2] - num('e'));
+                    if (day[0] / 10080 == week && (longs >> i & 1) == 0 && gain > most) {
+                        chosen = i;
+                        most = gain;
+                    }
+                }
+                if (chosen < 0) break;
+                longs |= 1 << chosen;
+            }
+        }
+        return longs;
     }
 
     private Choice choice(List<int[]> days, List<Integer> worth, int longs) {

@@ -20,6 +20,7 @@ public final class OracleTest {
         for (int seed = 0; seed < 2500 && wrong < 10; seed++) new OracleTest(seed).mixedRun();
         for (int seed = 0; seed < 1500 && wrong < 10; seed++) new OracleTest(seed).fortnight();
         for (int seed = 0; seed < 1500 && wrong < 10; seed++) new OracleTest(seed).shortSpells();
+        for (int seed = 0; seed < 600 && wrong < 10; seed++) new OracleTest(seed).anyLaw();
         for (int seed = 0; seed < 600 && wrong < 10; seed++) new OracleTest(seed).likeOnes();
         for (int seed = 0; seed < 400 && wrong < 10; seed++) new OracleTest(seed).vehicles();
         new OracleTest(0).crowdedVehicles();
@@ -178,9 +179,27 @@ public final class OracleTest {
             act(1, rest ? of(2, 2, 2, 2, 4) : of(0, 0, 0, 1), minutes, 0);
             left -= minutes;
         }
-        if (tooDear(1)) return;
         judge(1, false);
         if (random.nextInt(3) == 0) judge(1, true);
+    }
+
+    /** Laws with numbers of any size to each other, and rows of lengths about them. */
+    private void anyLaw() {
+        boolean small = random.nextBoolean();
+        tell("c" + to(1, 400) + ";b" + to(1, 90) + ";s" + to(1, 90) + ";t" + to(1, 90) + ";d" + to(1, 600) + ";e" + to(1, 900)
+                + ";x" + of(0, 1, 2, 3, 5, 99) + ";y" + of(0, 1, 2, 3, 5, 99)
+                + ";r" + to(1, small ? 60 : 900) + ";q" + to(1, small ? 60 : 700) + ";w" + to(1, 5000));
+        int acts = to(1, 60);
+        for (int i = 0; i < acts && oracle.count(3, 1) < 20160; i++) {
+            int left = 20160 - oracle.count(3, 1);
+            int minutes = oracle.num((char) of('r', 'q', 'q', 'd', 'c', 'b', 's', 't')) + to(-1, 1);
+            if (random.nextInt(3) == 0) minutes = of(1, 10, 60, 1440, to(1, 300));
+            if (random.nextInt(15) == 0 && left > 10080) minutes = left - 10080 + to(-1, 1);
+            act(3, i % 2 == 0 ? of(0, 0, 0, 0, 1, 4) : of(2, 2, 2, 4, 3), Math.max(1, Math.min(minutes, left)), 1);
+        }
+        judge(3, false);
+        judge(3, true);
+        lookAt(3);
     }
 
     /** Few lengths and much room, so that many choices weigh the same and the later rules of THE BEST decide. */
@@ -194,13 +213,6 @@ public final class OracleTest {
         }
         act(2, 0, of(50, 100, 200), 1);
         judge(2, false);
-    }
-
-    /** The oracle tries every set of days: leave out what would take it too long. */
-    private boolean tooDear(int card) {
-        int rests = 0;
-        for (int[] run : Oracle.runs(oracle.minutes(card, false))) if (run[1] - run[0] >= oracle.num('q')) rests++;
-        return rests > 13;
     }
 
     /** RULE 1 and what may be driven from now, with small numbers in the law. */
